@@ -80,7 +80,12 @@ public final class RandomRunsTest {
             } else if (choice == 2) {
                 tellLetters();
             } else if (choice == 3) {
-                make("send", number("pupil"), number("pupil"));
+                for (int k = random.nextInt(9); k >= 0; k--) {
+                    make("send", number("pupil"), number("pupil"));
+                }
+                make("suspect");
+                make("note", random.nextInt(17) - 1);
+                make("came", random.nextInt(16));
             } else if (choice == 4) {
                 make("when", number("pupil"), number("pupil"));
             } else if (choice == 5) {

@@ -145,8 +145,13 @@ public final class TruthTest {
         DUE.is("45: the last but one", x.came(14), 0);
         DUE.is("45: the newest", x.came(15), 1);
         DUE.is("44: no seventeenth", x.note(16), -5);
-        DUE.is("52: seventeen in all", x.status(7), 17);
-        DUE.is("52: one came in all", x.status(8), 1);
+        x.send(2, 1);
+        DUE.is("44: one place ahead", x.note(14), 7);
+        DUE.is("45: one place ahead", x.came(14), 1);
+        DUE.is("44: the newest then", x.note(15), 6);
+        DUE.is("46: between in the one that came", x.suspect(), -1);
+        DUE.is("52: eighteen in all", x.status(7), 18);
+        DUE.is("52: two came in all", x.status(8), 2);
     }
 
     private static void suspect() {
