@@ -228,6 +228,7 @@ public final class SentencesTest {
             BRIDGE + "cut(0,1)=1 cut(0,6)=2 cut(0,7)=1 cut(6,7)=-1 cut(0,2)=-1 bar(6,7,true) cut(0,1)=0 cut(6,7)=0 bar(2,4,false) "
             + "cut(0,1)=1", SNAKE + "ways(0,9)=0 cut(0,9)=1 cut(0,8)=1 cut(0,1)=-1",
             Script.seated(0, 1) + "pupil(0,10,0) pupil(0,11,0) cut(0,3)=0 cut(1,2)=0",
+            "pupil(0,0,0) pupil(0,10,0) pupil(0,5,0) pupil(0,1,0) pupil(0,4,0) pupil(0,6,0) pupil(0,9,0) cut(0,1)=1 cut(1,0)=1 cut(3,6)=1",
             "pupil(0,8,0) pupil(0,9,0) pupil(0,10,0) pupil(0,4,0) pupil(0,6,0) pupil(0,0,0) pupil(0,1,0) pupil(0,2,0) pupil(0,5,0) "
             + "cut(1,6)=3 cut(0,7)=2 cut(8,5)=2");
         of("REACH of A: PUPILS (bits) to whom there is a WAY of any length that nobody between reads.",

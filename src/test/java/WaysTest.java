@@ -12,6 +12,7 @@ public final class WaysTest {
         ring();
         nineAtMost();
         hands();
+        allRooms();
         surestOfSeveral();
         cuts();
         unreadAndReaders();
@@ -142,6 +143,58 @@ public final class WaysTest {
             int apart = Math.abs(desk / 4 - from / 4) + Math.abs(desk % 4 - from % 4);
             if (apart == 1 && (used >> desk & 1) == 0) {
                 found += countedWays(desk, to, used | 1 << desk, left - 1);
+            }
+        }
+        return found;
+    }
+
+    /** Each choice of twelve of sixteen desks, and each two pupils there: no room has more ways than the class has place for. */
+    private static void allRooms() {
+        int most = 0;
+        for (int taken = 0; taken < 1 << 16; taken++) {
+            if (Integer.bitCount(taken) == 12) {
+                most = Math.max(most, waysInRoom(taken));
+            }
+        }
+        DUE.is("20: the most ways in any room", most, 29);
+    }
+
+    private static int waysInRoom(int taken) {
+        UnderTheDesks x = new UnderTheDesks();
+        x.rows(4);
+        int[] desks = new int[12];
+        for (int desk = 0; desk < 16; desk++) {
+            if ((taken >> desk & 1) != 0) {
+                desks[x.pupil(0, desk, 0)] = desk;
+            }
+        }
+        int most = 0;
+        for (int p = 0; p < 12; p++) {
+            for (int q = p + 1; q < 12; q++) {
+                int due = waysInRoom(desks[p], desks[q], taken & ~(1 << desks[p]), 9);
+                int got = x.ways(p, q);
+                if (got != due) {
+                    DUE.is("20: from " + desks[p] + " to " + desks[q] + " in " + Integer.toBinaryString(taken), got, due);
+                }
+                most = Math.max(most, got);
+            }
+        }
+        return most;
+    }
+
+    private static int waysInRoom(int from, int to, int free, int left) {
+        if (from == to) {
+            return 1;
+        }
+        if (left == 1) {
+            return 0;
+        }
+        int found = 0;
+        for (int step : new int[] {-4, -1, 1, 4}) {
+            int desk = from + step;
+            boolean isBeside = desk >= 0 && desk < 16 && (Math.abs(step) == 4 || desk / 4 == from / 4);
+            if (isBeside && (free >> desk & 1) != 0) {
+                found += waysInRoom(desk, to, free & ~(1 << desk), left - 1);
             }
         }
         return found;
